@@ -1203,7 +1203,7 @@ public final class LastInBox {
         }
 
         private boolean getsIn(int level, int goes) {
-            if (level >= goes || level + 1 >= purses.length) {
+            if (level < 0 || level >= goes || level + 1 >= purses.length) {
                 return false;
             }
             for (int sort = 0; sort < Hall.SORTS; sort++) {
