@@ -565,6 +565,7 @@ public final class LastInBox {
         private static final int GONE = -1;
         private final int[] coins = new int[MOST];
         private int size;
+        private int firstGap = MOST;
 
         int size() {
             return size;
@@ -587,18 +588,20 @@ public final class LastInBox {
         void takeOut(int place) {
             if (place >= 0 && place < size && place < MOST) {
                 coins[place] = GONE;
+                firstGap = Math.min(firstGap, place);
             }
         }
 
         void closeGaps() {
-            int left = 0;
-            for (int i = 0; i < size && i < MOST; i++) {
+            int left = Math.max(0, Math.min(firstGap, size));
+            for (int i = left; i < size && i < MOST; i++) {
                 if (coins[i] != GONE && left < MOST) {
                     coins[left] = coins[i];
                     left++;
                 }
             }
             size = left;
+            firstGap = MOST;
         }
 
         void takeAll() {
