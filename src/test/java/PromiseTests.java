@@ -1,82 +1,5 @@
 /** Each promise with answers worked out by hand from the document: ordinary inputs, edges, wrong inputs. */
-public final class PromiseTests {
-    private static final long BEYOND = -1000000001L;
-    private static final long NONE = -1000000002L;
-    private static final long STATE = -1000000003L;
-    private static final long FULL = -1000000004L;
-    private static final long KIND = -1000000005L;
-    private static final long PARTED = -1000000006L;
-    private static int wrong;
-    private static int promise;
-    private static int row;
-
-    private static void of(int number) {
-        promise = number;
-        row = 0;
-    }
-
-    private static void due(long got, long want) {
-        row++;
-        if (got != want) {
-            wrong++;
-            int line = StackWalker.getInstance().walk(s -> s.skip(1).filter(f -> !f.getMethodName().equals("row")
-                && !f.getMethodName().equals("dues")).findFirst().get().getLineNumber());
-            System.out.println("promise " + promise + ", row " + row + " (line " + line + "): answered " + got + ", due is " + want);
-        }
-    }
-
-    private static LastInBox box(int km, int... heap) {
-        LastInBox x = new LastInBox();
-        x.box(km);
-        for (int sort : heap) {
-            x.lay(sort % 10, sort / 10);
-        }
-        return x;
-    }
-
-    private static int tape(LastInBox x, String text) {
-        int answer = 0;
-        for (int at = 0; at < text.length(); at += 8) {
-            int n = Math.min(8, text.length() - at);
-            long word = 0;
-            for (int i = n - 1; i >= 0; i--) {
-                word = word << 8 | text.charAt(at + i);
-            }
-            answer = x.feed(word, n);
-        }
-        return answer;
-    }
-
-    private static int told(LastInBox x, int use, String text) {
-        tape(x, text);
-        return x.text(use);
-    }
-
-    private static void row(LastInBox x, int sheet, int bits, int... numbers) {
-        x.sheet(sheet, bits, numbers.length);
-        for (int i = 0; i < numbers.length; i++) {
-            x.put(sheet, i, numbers[i]);
-        }
-    }
-
-    /** THE HEAP, the latest first, as coin() tells it. */
-    private static void heapIs(LastInBox x, int... coins) {
-        due(x.count(0), coins.length);
-        for (int i = 0; i < coins.length; i++) {
-            due(x.coin(i), coins[i]);
-        }
-    }
-
-    /** CHANGE for a coin: the SORTS as they come out. */
-    private static void gives(LastInBox x, int sort, int right, int... sorts) {
-        due(x.change(sort, 1), sorts.length);
-        for (int i = 0; i < sorts.length; i++) {
-            due(x.change(sort, 4 + i), sorts[i]);
-        }
-        due(x.change(sort, 4 + sorts.length), NONE);
-        due(x.change(sort, 2), right);
-    }
-
+public final class PromiseTests extends Checks {
     private static void aNewObject() {
         of(1);
         LastInBox x = new LastInBox();
@@ -281,23 +204,13 @@ public final class PromiseTests {
             {"9999*9999*9999*9999/9999", (int) (9999L * 9999L * 9999L * 9999L) / 9999},
         };
         for (Object[] one : rows) {
-            int want = (Integer) one[1];
-            // No NUMBER has more than 4 digits, so that a value is held up in parts.
-            isValue("(" + one[0] + ")%9999", want % 9999);
-            isValue("(" + one[0] + ")/9999%9999", want / 9999 % 9999);
-            isValue("(" + one[0] + ")/9999/9999", want / 9999 / 9999);
+            isValue((String) one[0], (Integer) one[1]);
         }
         LastInBox x = box(62, 0, 0, 0, 0);
         due(told(x, 0, "k<2"), 1);
         due(x.change(3, 1), 2);
         due(told(x, 0, "l>5"), 1);
         due(x.change(3, 1), 2);
-    }
-
-    private static void isValue(String text, int value) {
-        LastInBox x = box(62, 2);
-        due(told(x, 0, text + "=" + (value < 0 ? "0-" + -value : "" + value)), 1);
-        due(x.change(3, 1), 1);
     }
 
     private static void changes() {
@@ -842,17 +755,6 @@ public final class PromiseTests {
         due(x.count(0), 2);
     }
 
-    private static void says(int km, int voice, int x, long answer, int... bodies) {
-        LastInBox box = box(km);
-        due(box.voice(voice, x), answer);
-        due(box.count(7), bodies.length);
-        for (int i = 0; i < bodies.length; i++) {
-            due(box.body(i), bodies[i]);
-        }
-        due(box.body(bodies.length), NONE);
-        due(box.body(-1), NONE);
-    }
-
     private static void voices() {
         of(28);
         says(3, 0, 7, 8, 10);
@@ -1173,9 +1075,6 @@ public final class PromiseTests {
         images();
         numbersThatWait();
         counts();
-        System.out.println(wrong == 0 ? "PromiseTests: all answers are as due" : wrong + " answers are not as due");
-        if (wrong != 0) {
-            System.exit(1);
-        }
+        ends("PromiseTests");
     }
 }
