@@ -471,6 +471,17 @@ public final class VoiceSentences extends Checks {
             due(x.count(6), 3);
             due(x.check(), 0);
             due(x.count(6), 0);
+            // What waited ahead is gone.
+            lays(x, 2, 4);
+            for (int i = 1; i <= 5; i++) {
+                x.tell(i);
+            }
+            due(x.check(), 1);
+            x.empty();
+            due(x.check(), 0);
+            x.lay(3, 0);
+            x.tell(3);
+            due(x.check(), 0);
             // All 24.
             x = box(10, 3);
             lays(x, 23, 4);

@@ -218,6 +218,17 @@ public final class WouldBeSentences extends Checks {
             due(x.order(0, 1), NONE);
             x.sheet(0, 16, 24);
             due(x.order(0, -1), 0);
+            // Who stood in a QUEUE ahead, and would be RIGHT, doesn't stand in this one.
+            x = fives(3, 2, 2);
+            row(x, 0, 16, 3, 2, 2);
+            due(x.order(0, -1), 2);
+            row(x, 0, 16, 3, 9, 9);
+            due(x.order(0, -1), 0);
+            due(x.order(0, 0), 0);
+            due(x.order(0, 1), NONE);
+            due(x.dawn(0, 0), NONE);
+            row(x, 0, 16, 9, 2, 9);
+            due(x.dawn(0, 0), 0);
             // All six.
             x = fives(2, 3, 2, 3, 2, 3);
             row(x, 0, 32, 2, 3, 2, 3, 2, 3);
